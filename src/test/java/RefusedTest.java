@@ -1,102 +1,150 @@
-import java.util.List;
-
-/** What is refused changes nothing: each refusal of each call, on an object where nearly all is full. */
+/** 'What is refused changes nothing', and of several refusals the first: each call, on objects of which much is told. */
 public final class RefusedTest {
-    private static BodyAccounts x;
-    private static List<Integer> before;
+    private static final int U = Check.UNKNOWN, O = Check.OUTSIDE, N = Check.NOT, F = Check.FULL;
 
     public static void main(String[] args) {
-        x = Check.of(Check.HILL);
-        fill();
-        before = Check.seen(x);
-        theBranch();
-        done();
-        tried();
-        seen();
-        images();
+        withoutBranch();
+        withoutCustomers();
+        Desk desk = busy();
+        theBranch(desk);
+        done(desk);
+        tried(desk);
+        seen(desk);
+        images(desk);
         Check.end();
     }
 
-    private static void fill() {
-        x.seed(4);
-        Check.feed(x, "b1;".repeat(80));
-        for (int k = 0; k < 151; k++) {
-            x.month(60);
+    /** All lists are full, one debt is at its most, something can be undone, image 1 is kept. */
+    private static Desk busy() {
+        Desk desk = Desk.of(Check.HILL);
+        desk.call("seed 4");
+        desk.call("month 7");
+        desk.call("keep 1");
+        desk.times(10, "lend 0 1 999");
+        desk.call("lend 0 1 9");
+        desk.call("drift 3");
+        for (int k = 0; k < 5; k++) {
+            desk.call("spending " + (k + 1));
         }
-        for (int k = 0; k < 11; k++) {
-            x.lend(0, 1, k == 10 ? 9 : 999);
+        for (int k = 0; k < 4; k++) {
+            desk.call("must " + k + " " + k);
+        }
+        for (int k = 0; k < 8; k++) {
+            desk.call("see " + k % 5 + " " + (k % 2 == 0));
         }
         for (int k = 0; k < 15; k++) {
-            x.spending(k + 1);
-            x.must(k % 5, k % 4);
-            x.see(k % 5, k % 3 == 0);
-            x.write(k % 3, 10000 + k);
+            desk.call("write " + k % 3 + " " + (10000 + k));
+        }
+        desk.feed("b1,");
+        return desk;
+    }
+
+    private static void withoutBranch() {
+        Desk desk = new Desk();
+        desk.call("spending 4");
+        desk.call("seed 4");
+        desk.call("keep 1");
+        desk.feed("b1,");
+        String[] unknown = {"part 0", "customer 0 0", "customer 0 5", "owes 0 1", "owes 0 0", "can 0 0", "spend 0 1", "spend 0 0", "lend 0 1 1",
+            "lend 0 1 0", "payBack 0 1 1", "payBack 0 1 0", "hat 0", "able 0 0 1", "able 0 0 0", "must 0 0", "must 0 4", "plan 0 1 -1",
+            "plan 0 0 -1", "asOne 0 -1", "loan 0 0 0", "loan 0 0 2", "see 0 true", "write 0 0", "write 0 -1", "keep 2", "goBack 2"};
+        for (String call : unknown) {
+            desk.refused(call, U);
+        }
+        for (String call : new String[] {"month 0", "drift 0", "told 14", "spending 0", "wage 0 101", "has 3", "seed -1", "feed 256"}) {
+            desk.refused(call, O);
+        }
+        for (String call : new String[] {"month 1", "drift 1", "undo", "goBack 0"}) {
+            desk.refused(call, N);
         }
     }
 
-    private static void refused(String call, int got, int want) {
-        Check.due(call, got, want);
-        Check.due("nothing changes by " + call, Check.seen(x).equals(before) ? 1 : 0, 1);
+    private static void withoutCustomers() {
+        Desk desk = Desk.of("b500;");
+        desk.call("month 1");
+        for (String call : new String[] {"customer 0 0", "owes 0 1", "can 0 0", "spend 0 1", "lend 0 1 1", "payBack 0 1 1", "hat 0", "able 0 0 1",
+            "must 0 0", "plan 0 1 -1", "asOne 0 -1", "loan 0 0 0", "write 0 0", "part 1", "see 1 true"}) {
+            desk.refused(call, U);
+        }
     }
 
-    private static void theBranch() {
-        refused("feed(256)", x.feed(256), Check.OUTSIDE);
-        refused("feed(-1)", x.feed(-1), Check.OUTSIDE);
-        refused("feed(98)", x.feed(98), Check.FULL);
-        refused("told(14)", x.told(14), Check.OUTSIDE);
-        refused("part(5)", x.part(5), Check.UNKNOWN);
-        refused("customer(3, 5)", x.customer(3, 5), Check.UNKNOWN);
-        refused("customer(2, 5)", x.customer(2, 5), Check.OUTSIDE);
-        refused("owes(1, 1)", x.owes(1, 1), Check.UNKNOWN);
-        refused("can(0, 5)", x.can(0, 5), Check.UNKNOWN);
+    private static void theBranch(Desk desk) {
+        desk.refused("feed -1", O);
+        desk.refused("feed 256", O);
+        desk.refused("told -1", O);
+        desk.refused("told 14", O);
+        desk.refused("part -1", U);
+        desk.refused("part 5", U);
+        desk.refused("customer 3 0", U);
+        desk.refused("customer 3 5", U);
+        desk.refused("customer 2 5", O);
+        desk.refused("owes 1 1", U);
+        desk.refused("owes 0 3", U);
+        desk.refused("can 3 0", U);
+        desk.refused("can 0 5", U);
     }
 
-    private static void done() {
-        refused("month(61)", x.month(61), Check.OUTSIDE);
-        refused("month(60)", x.month(60), Check.FULL);
-        refused("spend(3, 1000)", x.spend(3, 1000), Check.UNKNOWN);
-        refused("spend(0, 1000)", x.spend(0, 1000), Check.OUTSIDE);
-        refused("lend(0, 0, 1000)", x.lend(0, 0, 1000), Check.UNKNOWN);
-        refused("lend(0, 1, 1000)", x.lend(0, 1, 1000), Check.OUTSIDE);
-        refused("lend(0, 1, 1)", x.lend(0, 1, 1), Check.FULL);
-        refused("payBack(1, 1, 1000)", x.payBack(1, 1, 1000), Check.UNKNOWN);
-        refused("payBack(0, 1, 1000)", x.payBack(0, 1, 1000), Check.OUTSIDE);
-        refused("payBack(0, 1, 999)", x.payBack(0, 1, 999), Check.NOT);
-        refused("drift(0)", x.drift(0), Check.OUTSIDE);
+    private static void done(Desk desk) {
+        desk.refused("month 0", O);
+        desk.refused("month 61", O);
+        desk.refused("spend 3 1", U);
+        desk.refused("spend 3 1000", U);
+        desk.refused("spend 0 1000", O);
+        desk.refused("lend 0 0 1", U);
+        desk.refused("lend 0 3 1000", U);
+        desk.refused("lend 3 1 1000", U);
+        desk.refused("lend 0 1 1000", O);
+        desk.refused("lend 0 1 0", O);
+        desk.refused("lend 0 1 1", F);
+        desk.refused("lend 0 1 999", F);
+        desk.refused("payBack 1 1 1", U);
+        desk.refused("payBack 3 0 1000", U);
+        desk.refused("payBack 0 1 1000", O);
+        desk.refused("payBack 1 0 0", O);
+        desk.refused("payBack 0 1 999", N);
+        desk.refused("payBack 2 0 1", N);
+        desk.refused("drift 0", O);
+        desk.refused("drift 61", O);
     }
 
-    private static void tried() {
-        refused("hat(3)", x.hat(3), Check.UNKNOWN);
-        refused("able(3, 0, 61)", x.able(3, 0, 61), Check.UNKNOWN);
-        refused("able(0, 5, 61)", x.able(0, 5, 61), Check.UNKNOWN);
-        refused("able(0, 0, 61)", x.able(0, 0, 61), Check.OUTSIDE);
-        refused("spending(1000)", x.spending(1000), Check.OUTSIDE);
-        refused("spending(999)", x.spending(999), Check.FULL);
-        refused("must(5, 4)", x.must(5, 4), Check.UNKNOWN);
-        refused("must(0, 4)", x.must(0, 4), Check.OUTSIDE);
-        refused("must(0, 3)", x.must(0, 3), Check.FULL);
-        refused("plan(3, 5, 0)", x.plan(3, 5, 0), Check.UNKNOWN);
-        refused("plan(0, 5, 0)", x.plan(0, 5, 0), Check.OUTSIDE);
-        refused("plan(0, 3, 0)", x.plan(0, 3, 0), Check.OUTSIDE);
-        refused("asOne(5, 0)", x.asOne(5, 0), Check.UNKNOWN);
-        refused("loan(0, 5, 2)", x.loan(0, 5, 2), Check.UNKNOWN);
-        refused("loan(0, 0, 2)", x.loan(0, 0, 2), Check.OUTSIDE);
-        refused("wage(61, 0)", x.wage(61, 0), Check.OUTSIDE);
+    private static void tried(Desk desk) {
+        desk.refused("hat 3", U);
+        desk.refused("able 3 0 61", U);
+        desk.refused("able 0 5 61", U);
+        desk.refused("able 0 0 61", O);
+        desk.refused("spending 1000", O);
+        desk.refused("spending 0", O);
+        desk.refused("spending 999", F);
+        desk.refused("must 5 4", U);
+        desk.refused("must 0 4", O);
+        desk.refused("must 0 3", F);
+        desk.refused("plan 3 5 0", U);
+        desk.refused("plan 3 3 0", U);
+        desk.refused("plan 0 5 0", O);
+        desk.refused("plan 0 3 0", O);
+        desk.refused("asOne 5 0", U);
+        desk.refused("loan 3 0 2", U);
+        desk.refused("loan 0 5 2", U);
+        desk.refused("loan 0 0 2", O);
+        desk.refused("wage 61 0", O);
+        desk.refused("wage 0 101", O);
     }
 
-    private static void seen() {
-        refused("see(5, true)", x.see(5, true), Check.UNKNOWN);
-        refused("see(0, true)", x.see(0, true), Check.FULL);
-        refused("has(3)", x.has(3), Check.OUTSIDE);
-        refused("write(3, 20001)", x.write(3, 20001), Check.UNKNOWN);
-        refused("write(0, 20001)", x.write(0, 20001), Check.OUTSIDE);
-        refused("write(0, 20000)", x.write(0, 20000), Check.FULL);
+    private static void seen(Desk desk) {
+        desk.refused("see 5 true", U);
+        desk.refused("see 0 true", F);
+        desk.refused("has 3", O);
+        desk.refused("write 3 20001", U);
+        desk.refused("write 0 20001", O);
+        desk.refused("write 0 20000", F);
     }
 
-    private static void images() {
-        refused("seed(-1)", x.seed(-1), Check.OUTSIDE);
-        refused("keep(2)", x.keep(2), Check.UNKNOWN);
-        refused("goBack(2)", x.goBack(2), Check.UNKNOWN);
-        refused("goBack(0)", x.goBack(0), Check.NOT);
+    private static void images(Desk desk) {
+        desk.refused("seed -1", O);
+        desk.refused("keep 2", U);
+        desk.refused("keep -1", U);
+        desk.refused("goBack 2", U);
+        desk.refused("goBack -1", U);
+        desk.refused("goBack 0", N);
     }
 }

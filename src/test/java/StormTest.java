@@ -8,6 +8,10 @@ public final class StormTest {
     private BodyAccounts real;
     private Model model;
     private String run;
+    private int calls;
+    private boolean oneBranch;
+    /** Great sums between two, so that balances and debts come to their bounds. */
+    private boolean heavy;
 
     private StormTest(long seed) {
         random = new Random(seed);
@@ -18,16 +22,14 @@ public final class StormTest {
         for (int k = 0; k < 20000; k++) {
             storm.readText(k);
         }
-        for (int k = 0; k < 1500; k++) {
+        for (int k = 0; k < 3000; k++) {
             storm.run(k);
         }
         Check.end();
     }
 
     private void readText(int k) {
-        run = "text " + k;
-        real = new BodyAccounts();
-        model = new Model();
+        begin("text " + k);
         String text = text();
         for (int e = random.nextInt(4); e > 0 && !text.isEmpty(); e--) {
             text = spoiled(text);
@@ -36,21 +38,31 @@ public final class StormTest {
     }
 
     private void run(int k) {
-        run = "run " + k;
-        real = new BodyAccounts();
-        model = new Model();
+        begin("run " + k);
         if (k % 20 != 0) {
             tell(text());
         }
-        for (int call = 0; call < 250; call++) {
+        oneBranch = k % 2 == 0;
+        heavy = k % 3 == 0;
+        // No object is asked more than the document promises: 512 calls, of which a new text may take some 300.
+        while (calls < (oneBranch ? 490 : 190)) {
             callOne(random.nextInt(100));
         }
         for (int what = 0; what <= 13; what++) {
             same("told " + what, real.told(what), model.told(what));
         }
+        Check.due(run + ": calls on one object", Math.max(512, calls), 512);
+    }
+
+    private void begin(String name) {
+        run = name;
+        calls = 0;
+        real = new BodyAccounts();
+        model = new Model();
     }
 
     private void same(String call, int got, int want) {
+        calls++;
         Check.due(run + ": " + call, got, want);
     }
 
@@ -121,14 +133,17 @@ public final class StormTest {
     }
 
     private int who() {
-        return random.nextInt(25) == 0 ? near(5) : random.nextInt(Math.max(1, real.told(1)));
+        return random.nextInt(25) == 0 ? near(5) : random.nextInt(Math.max(1, Math.min(heavy ? 2 : 5, model.told(1))));
     }
 
     private int task() {
-        return random.nextInt(25) == 0 ? near(6) : random.nextInt(Math.max(1, real.told(2)));
+        return random.nextInt(25) == 0 ? near(6) : random.nextInt(Math.max(1, model.told(2)));
     }
 
     private int sum() {
+        if (heavy && random.nextInt(3) > 0) {
+            return 900 + random.nextInt(101);
+        }
         return random.nextInt(2) == 0 ? near(60) : near(999);
     }
 
@@ -140,7 +155,7 @@ public final class StormTest {
         } else if (kind < 98) {
             seeOne(kind % 9);
         } else {
-            turnOver(random.nextInt(8));
+            turnOver(random.nextInt(oneBranch ? 6 : 8));
         }
     }
 
@@ -230,7 +245,7 @@ public final class StormTest {
                 same("look", real.look(), model.look());
                 break;
             case 3:
-                int balance = random.nextInt(4) == 0 ? near(20000) : Math.max(0, real.customer(c, 0));
+                int balance = random.nextInt(4) == 0 ? near(20000) : Math.max(0, model.customer(c, 0));
                 same("write " + c + " " + balance, real.write(c, balance), model.write(c, balance));
                 break;
             case 4:
