@@ -7,6 +7,7 @@ public final class TextEdgesTest {
         letters();
         lettersAtMost();
         longestText();
+        shorterText();
         partsAtMost();
         partsBounds();
         customersAtMost();
@@ -110,6 +111,29 @@ public final class TextEdgesTest {
         reads("b0;" + " ".repeat(236) + "b", -13, 239);
         reads("b" + "0".repeat(239), -12, 1);
         reads("b0;" + "t1;".repeat(79), -13, 21);
+    }
+
+    // 'the end at the text's length': a text that ends within a longer one told ahead of it has nothing of that one
+    private static void shorterText() {
+        String longer = "b0,1;c0 0 0;t1;";
+        int[] ends = {1, 2, 3, 4, 6, 7, 8, 9, 10, 11, 13, 14};
+        for (int end : ends) {
+            Desk desk = Desk.of(longer);
+            Check.due("branch() of the first " + end, desk.tell(longer.substring(0, end)), -11);
+            desk.due("fault", end);
+            desk.row("told", 0, 2, 1, 1);
+            // The same behind a text with a FAULT.
+            desk.tell(longer + "x");
+            Check.due("branch() of the first " + end + " again", desk.tell(longer.substring(0, end)), -11);
+            desk.due("fault", end);
+        }
+        Desk desk = Desk.of(longer);
+        desk.tell("b0,1;c0 0 0;");
+        desk.row("told", 0, 2, 1, 0);
+        desk.tell("b0,1;");
+        desk.row("told", 0, 2, 0, 0);
+        desk.call("branch");
+        desk.row("told", 0, 0, 0, 0);
     }
 
     // '1 to 8 PARTS'; 'a ninth T: at its ','
