@@ -50,14 +50,14 @@ final class Desk {
         tried(call, want);
     }
 
-    /** The call answers so, and two objects, one with it and one without it, are alike in all that can be asked. */
+    /** The call answers so, and two objects, one with it and one without it, are alike. */
     void tried(String call, int want) {
         Desk with = again();
         Check.due(call + " (call " + calls.size() + ")", with.call(call), want);
         with.alike("as it was behind " + call, this);
     }
 
-    /** Two objects are alike in all that can be asked. */
+    /** Two objects are alike in all that allThatIsSo() asks. */
     void alike(String name, Desk other) {
         Check.due(name, again().allThatIsSo(true).equals(other.again().allThatIsSo(true)) ? 1 : 0, 1);
     }
@@ -78,7 +78,7 @@ final class Desk {
         return desk;
     }
 
-    /** All that can be asked; the object is spent then, for what can be undone and the images are asked too. */
+    /** The state as far as calls show it; the object is spent then, for what can be undone, the images and the text are asked too. */
     private List<Integer> allThatIsSo(boolean faultToo) {
         List<Integer> all = new ArrayList<>();
         for (int what = 0; what <= 13; what++) {

@@ -482,7 +482,7 @@ public final class DoneEdgesTest {
         }
     }
 
-    // 'are as ahead of it': all that can be asked, not the parts that a test thinks of
+    // 'are as ahead of it': the whole state, not the parts that a test thinks of
     private static void undoIsAsAhead() {
         for (String call : new String[] {"month 1", "month 60", "spend 0 1", "spend 0 999", "lend 0 1 1", "lend 1 0 999", "payBack 1 0 5"}) {
             Desk undone = busy();
