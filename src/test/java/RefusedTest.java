@@ -5,6 +5,7 @@ public final class RefusedTest {
     public static void main(String[] args) {
         withoutBranch();
         withoutCustomers();
+        full();
         Desk desk = busy();
         theBranch(desk);
         done(desk);
@@ -66,6 +67,19 @@ public final class RefusedTest {
             "must 0 0", "plan 0 1 -1", "asOne 0 -1", "loan 0 0 0", "write 0 0", "part 1", "see 1 true"}) {
             desk.refused(call, U);
         }
+    }
+
+    /** The two that only many calls reach. */
+    private static void full() {
+        Desk text = Desk.of("b500;");
+        text.call("month 1");
+        text.times(240, "feed 32");
+        text.refused("feed 256", O);
+        text.refused("feed 32", F);
+        Desk months = Desk.of("b500;c530 30 20;");
+        months.times(151, "month 60");
+        months.refused("month 61", O);
+        months.refused("month 1", F);
     }
 
     private static void theBranch(Desk desk) {
